@@ -1213,16 +1213,12 @@ public final class LadderClub {
             }
         }
 
-        /** A day on which the one whose turn it is asks somebody told, or nobody. */
+        /** The first day, on which the one whose turn it is asks somebody told, or nobody. */
         void goOnAsking(Club by, int day, int whom) {
             beginDay();
-            if (ladder.names == 0) {
-                return;
-            }
-            int rung = ladder.turn(day);
-            for (int i = 0; i < countBefore; i++) {
-                lay(boardsBefore[i]);
-                play(by, rung, whom, i);
+            if (ladder.names > 0 && countBefore > 0) {
+                lay(boardsBefore[0]);
+                play(by, ladder.turn(day), whom, 0);
             }
         }
 
