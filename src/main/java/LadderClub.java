@@ -1111,19 +1111,9 @@ public final class LadderClub {
             if (open < MOST_OPEN && take('(')) {
                 return readEither(open + 1) && take(')');
             }
-            return readTest();
-        }
-
-        private boolean readTest() {
             int letter = takeOneOf("abrucd");
-            if (letter < 0) {
-                return false;
-            }
-            int sign = takeOneOf("<=>");
-            if (sign < 0) {
-                return false;
-            }
-            int number = readNumber();
+            int sign = letter < 0 ? -1 : takeOneOf("<=>");
+            int number = sign < 0 ? -1 : readNumber();
             return number >= 0 && put(Club.testOf(letter, sign, number));
         }
 
