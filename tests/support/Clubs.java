@@ -19,9 +19,15 @@ final class Clubs {
         return x;
     }
 
+    /** Feeds a text, eight signs a call, so that long ones leave calls for the rest of a test. */
     static void feed(LadderClub x, String text) {
-        for (int i = 0; i < text.length(); i++) {
-            x.feed(text.charAt(i), 1);
+        for (int from = 0; from < text.length(); from += 8) {
+            int n = Math.min(8, text.length() - from);
+            long w = 0;
+            for (int i = from; i < from + n; i++) {
+                w = w << 8 | text.charAt(i);
+            }
+            x.feed(w, n);
         }
     }
 
