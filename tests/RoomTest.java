@@ -50,12 +50,16 @@ public final class RoomTest {
         return x;
     }
 
+    /** On many objects by turns, as none is used for more than 512 calls. */
     private static void calling(int call) {
-        LadderClub x = dearest();
-        answers += calls(x, call);
+        LadderClub[] kept = new LadderClub[32];
+        for (int i = 0; i < kept.length; i++) {
+            kept[i] = dearest();
+            answers += calls(kept[i], call);
+        }
         long before = made();
         for (int i = 0; i < 512; i++) {
-            answers += calls(x, call);
+            answers += calls(kept[i % kept.length], call);
         }
         long bytes = made() - before;
         Due.due("512 of call " + call + ": " + bytes, bytes < 200_000 * FIELD);
