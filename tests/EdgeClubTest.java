@@ -11,6 +11,7 @@ public final class EdgeClubTest {
         clauses();
         endsTooEarly();
         allTheTape();
+        whatStoodThere();
         fiveClubs();
         tests();
         shyAndBold();
@@ -208,6 +209,26 @@ public final class EdgeClubTest {
         Due.due("9: 120 bytes of 0", x.club(), -10);
         Due.due("9: the tape is empty then", x.count(5), 0);
         Due.due("9: and takes all again", x.feed(0, 8), 8);
+    }
+
+    /** An emptied tape is empty: what stood behind the size does not come back, neither as a digit nor as a sign. */
+    private static void whatStoodThere() {
+        LadderClub x = Clubs.names(6);
+        String longer = "up 12;wins c;shy a<12&!(b=3);bold !b>4";
+        for (int size = 0; size < longer.length(); size++) {
+            x.image();
+            Due.due("9: a longer text", Clubs.club(x, longer), 0);
+            String begun = longer.substring(0, size);
+            int due = Clubs.club(new LadderClub(), begun);
+            Due.due("9: behind a longer one: " + begun, Clubs.club(x, begun), due == 0 ? 1 : due);
+            x.undo();
+        }
+        Clubs.club(x, longer);
+        Clubs.club(x, "up 1");
+        Due.due("10: up 1, not 12", x.may(1, 5, 0), 16);
+        Due.due("9: a longer fault", Clubs.club(x, "wins c;up 1!"), -10 - 11);
+        Due.due("9: the end of it is not there", Clubs.club(x, "wins "), -10 - 5);
+        Due.due("9: nor the whole", x.club(), -10);
     }
 
     private static void fiveClubs() {
