@@ -17,6 +17,7 @@ public final class EdgeClubTest {
         shyAndBold();
         higher();
         safeAndTold();
+        ofThoseItMay();
         kinds();
         askingOnTheLastDay();
         matches();
@@ -355,6 +356,33 @@ public final class EdgeClubTest {
         for (int kind = 0; kind < 7; kind++) {
             x.asker(0, kind, 0);
             Due.due("12: nobody to ask, kind " + kind, x.asks(0, 0, 0), -5);
+        }
+    }
+
+    /** Whom 5, on the lowest rung, asks of any of the five others, all its chances being 50. */
+    private static void ofThoseItMay() {
+        for (int may = 0; may < 32; may++) {
+            StringBuilder text = new StringBuilder("up 5;shy a<5");
+            for (int b = 0; b < 5; b++) {
+                text.append((may >> b & 1) == 1 ? "" : "|b=" + b);
+            }
+            LadderClub x = Clubs.names(6, text.toString());
+            Clubs.club(x, text + ";wins c");
+            Clubs.club(x, text + ";wins o");
+            int highest = may == 0 ? -5 : Integer.numberOfTrailingZeros(may);
+            int lowest = may == 0 ? -5 : 31 - Integer.numberOfLeadingZeros(may);
+            int[] whom = {lowest, lowest, highest, highest, highest, -5, -5};
+            for (int club = 0; club < 3; club++) {
+                Due.due("10: of " + may, x.may(club, 5, 0), may);
+                for (int kind = 0; kind < 7; kind++) {
+                    x.asker(5, kind, 50);
+                    Due.due("12: of " + may + " by club " + club + ", kind " + kind, x.asks(club, 5, 0), whom[kind]);
+                }
+                for (int v = 0; v < 7; v++) {
+                    x.asker(5, 5, v);
+                    Due.due("12: of " + may + ", told " + v, x.asks(club, 5, 0), (may >> v & 1) == 1 ? v : -5);
+                }
+            }
         }
     }
 
